@@ -28,6 +28,7 @@ public final class PromisesTest {
         cueAll();
         undo();
         undoOfEachCall();
+        undoOfCuesAndHeights();
         jetOf();
         pumpOf();
         cueOf();
@@ -549,6 +550,25 @@ public final class PromisesTest {
         due("the number is free again", x.cueOf(0, 0), 2);
     }
 
+    private static void undoOfCuesAndHeights() {
+        FountainCues x = new FountainCues();
+        x.set(2, 10);
+        x.aim(0, 3);
+        x.play(1);
+        x.cue(1, 2, 9);
+        x.cue(2, 5, 6);
+        x.drop(0);
+        x.undo();
+        due("the dropped one is back", x.cueOf(0, 2), 2);
+        due("the other is behind it", x.cueOf(1, 2), 5);
+        x.play(2);
+        due("done", x.count(7), 2);
+        due("height", x.count(8), 9);
+        x.undo();
+        due("not done", x.count(7), 0);
+        due("the height before", x.count(8), 3);
+    }
+
     // Promise 16
 
     private static void jetOf() {
@@ -848,6 +868,7 @@ public final class PromisesTest {
         due("at once", x.fits(0, 0, 10), 0);
         due("at the last tick", x.fits(999, 0, 10), 999);
         x.cue(5, 0, 1);
+        due("behind the only one", x.fits(5, 0, 1), 6);
         x.cue(6, 0, 1);
         due("behind double ones", x.fits(5, 0, 1), 7);
         due("before them", x.fits(4, 0, 1), 4);
@@ -949,6 +970,14 @@ public final class PromisesTest {
         Checks.due("cut by the wind", x.share(), 125.0 / 250.0);
         x.wind(20);
         Checks.due("nothing comes", x.share(), 0.0);
+        FountainCues y = new FountainCues();
+        y.jet(0, 1, 0);
+        y.aim(0, 1);
+        y.play(1);
+        Checks.due("the least that is asked for", y.share(), 1.0);
+        due("the least jet has a height", y.jetOf(0, 6), 1);
+        y.pump(0, 0);
+        Checks.due("nothing of the least", y.share(), 0.0);
     }
 
     // Promise 27
