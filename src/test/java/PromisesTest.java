@@ -50,41 +50,6 @@ public final class PromisesTest {
         Checks.due(what, got, want);
     }
 
-    private static FountainCues withText(String text) {
-        FountainCues x = new FountainCues();
-        type(x, text);
-        return x;
-    }
-
-    private static void type(FountainCues x, String text) {
-        for (int i = 0; i < text.length(); i++) {
-            x.append(text.charAt(i));
-        }
-    }
-
-    /** All jets of size 20, wide open in one tick, with pumps that give it all: 1600 a tick. */
-    private static FountainCues wideOpen() {
-        FountainCues x = new FountainCues();
-        for (int jet = 0; jet < 8; jet++) {
-            x.jet(jet, 20, jet % 4);
-            x.aim(jet, 10);
-        }
-        x.pump(0, 2000);
-        x.pump(1, 2000);
-        x.set(2, 10);
-        return x;
-    }
-
-    /** The jet 0 of size 20 open by 10 parts: it asks for 200. */
-    private static FountainCues oneOpen() {
-        FountainCues x = new FountainCues();
-        x.jet(0, 20, 0);
-        x.aim(0, 10);
-        x.set(2, 10);
-        x.play(1);
-        return x;
-    }
-
     // Promise 1
 
     private static void newObject() {
@@ -303,7 +268,7 @@ public final class PromisesTest {
     }
 
     private static void lossesByWind() {
-        FountainCues x = wideOpen();
+        FountainCues x = Shows.wideOpen();
         due("two hundredths", x.play(1), 32);
         x.set(1, 50);
         due("fifty hundredths", x.play(1), 800);
@@ -350,7 +315,7 @@ public final class PromisesTest {
     }
 
     private static void playDry() {
-        FountainCues x = wideOpen();
+        FountainCues x = Shows.wideOpen();
         x.set(1, 50);
         due("four ticks", x.play(4), 3200);
         due("just enough is left", x.play(1), 800);
@@ -364,7 +329,7 @@ public final class PromisesTest {
         x.fill(600);
         due("water for one tick exactly", x.play(1), 800);
         due("it is not dry", x.count(5), 3);
-        FountainCues y = wideOpen();
+        FountainCues y = Shows.wideOpen();
         y.set(1, 50);
         y.set(2, 1);
         y.aim(0, 0);
@@ -392,7 +357,7 @@ public final class PromisesTest {
     // Promise 12
 
     private static void clearBuffer() {
-        FountainCues x = withText("5@a1");
+        FountainCues x = Shows.withText("5@a1");
         due("clearBuffer", x.clearBuffer(), 4);
         due("clearBuffer of nothing", x.clearBuffer(), 0);
         due("append after it", x.append(48), 1);
@@ -410,7 +375,7 @@ public final class PromisesTest {
         String[] right = {"", "0", "5", "59", "599", "0@", "5@", "59@", "599@", "5@a", "5@h", "5@a0", "5@a1", "5@a10",
             "5@a9", "5@a0;", "5@a1;", "5@a10;", "5@a10;0", "5@a10;77@c2", "1@a1;2@b2;3@c3;4@d4;5@e5;6@f6;7@g7;8@h8"};
         for (String text : right) {
-            due("firstError of " + text, withText(text).firstError(), text.length());
+            due("firstError of " + text, Shows.withText(text).firstError(), text.length());
         }
         // The "!" stands ahead of the character that is wrong.
         String[] wrong = {"!x", "!@", "!;", "!/", "!:", "0!0", "0!1", "0!a", "100!0", "100!00", "5!a", "5!;", "5!-",
@@ -418,9 +383,9 @@ public final class PromisesTest {
             "5@a10!0", "5@a10!1", "5@a2!0", "5@a1!@", "5@a1;!;", "5@a1;!@", "5@a1;0!0", "5@a1;0!0@a1", "5@a1!,6@a1"};
         for (String marked : wrong) {
             String text = marked.replace("!", "");
-            due("firstError of " + text, withText(text).firstError(), marked.indexOf('!'));
+            due("firstError of " + text, Shows.withText(text).firstError(), marked.indexOf('!'));
         }
-        FountainCues x = withText("x5@a1");
+        FountainCues x = Shows.withText("x5@a1");
         due("what comes behind does not mend it", x.firstError(), 0);
         due("firstError is not undoable", x.count(9), 0);
     }
@@ -428,7 +393,7 @@ public final class PromisesTest {
     // Promise 14
 
     private static void cueAll() {
-        FountainCues x = withText("12@b10;0@a0;999@h3");
+        FountainCues x = Shows.withText("12@b10;0@a0;999@h3");
         due("cueAll", x.cueAll(), 3);
         int[][] cues = {{1, 0, 0, 0}, {0, 12, 1, 10}, {2, 999, 7, 3}};
         for (int place = 0; place < cues.length; place++) {
@@ -438,13 +403,13 @@ public final class PromisesTest {
         }
         due("the buffer is cleared", x.clearBuffer(), 0);
         due("cueAll is undoable as one call", x.count(9), 1);
-        type(x, "12@b1;13@b1;13@b2;12@c1");
+        Shows.type(x, "12@b1;13@b1;13@b2;12@c1");
         due("those that are refused are left out", x.cueAll(), 2);
         int[] order = {1, 0, 4, 3, 2};
         for (int place = 0; place < order.length; place++) {
             due("they take no numbers: " + place, x.cueOf(place, 0), order[place]);
         }
-        type(x, "12@b1");
+        Shows.type(x, "12@b1");
         due("all are refused", x.cueAll(), 0);
         due("it is saved nonetheless", x.count(9), 3);
         due("and the buffer is cleared", x.clearBuffer(), 0);
@@ -454,7 +419,7 @@ public final class PromisesTest {
         due("undone", x.count(1), 0);
         due("the buffer does not come back", x.clearBuffer(), 0);
         for (String text : new String[] {"", "5", "5@", "5@a", "5@a1;", "5@a1;6", "x", "5@a11", "00@a1"}) {
-            FountainCues y = withText(text);
+            FountainCues y = Shows.withText(text);
             Checks.refused("cueAll of " + text, y, ARGUMENT, y::cueAll);
             due("the buffer stays", y.clearBuffer(), text.length());
         }
@@ -464,11 +429,11 @@ public final class PromisesTest {
     private static void cueAllOfMany() {
         FountainCues x = new FountainCues();
         for (int part = 0; part < 3; part++) {
-            type(x, "1@a1;2@a1;3@a1;4@a1;5@a1;6@a1;7@a1".replace('a', (char) ('a' + part)));
+            Shows.type(x, "1@a1;2@a1;3@a1;4@a1;5@a1;6@a1;7@a1".replace('a', (char) ('a' + part)));
             due("no more than 16: " + part, x.cueAll(), part < 2 ? 7 : 2);
         }
         due("16", x.count(1), 16);
-        FountainCues y = withText("5@a9;5@b9;5@c9;5@d9;6@d0;6@e9");
+        FountainCues y = Shows.withText("5@a9;5@b9;5@c9;5@d9;6@d0;6@e9");
         for (int jet = 0; jet < 4; jet++) {
             y.jet(jet, 10, 0);
         }
@@ -496,9 +461,9 @@ public final class PromisesTest {
         due("a call that changes nothing is saved too", x.count(9), 1);
         due("and undone", x.undo(), 0);
         due("wind", x.count(2), 3);
-        FountainCues y = withText("5@a1");
+        FountainCues y = Shows.withText("5@a1");
         y.wind(1);
-        type(y, ";6");
+        Shows.type(y, ";6");
         y.undo();
         due("undo leaves the buffer", y.clearBuffer(), 6);
         undoAfterTheOldestWereDropped();
@@ -522,7 +487,7 @@ public final class PromisesTest {
     }
 
     private static void undoOfEachCall() {
-        FountainCues x = wideOpen();
+        FountainCues x = Shows.wideOpen();
         x.set(1, 50);
         x.cue(1, 0, 5);
         x.cue(200, 0, 5);
@@ -541,7 +506,7 @@ public final class PromisesTest {
             x.wind(0);
             due("all is as before the call " + i, x.digest(), before);
         }
-        type(x, "300@b1");
+        Shows.type(x, "300@b1");
         x.cueAll();
         due("undo of cueAll", x.undo(), 5);
         x.wind(0);
@@ -623,7 +588,7 @@ public final class PromisesTest {
         due("not cut by setting 0", x.jetOf(0, 5), 200);
         x.set(0, 19);
         due("cut by setting 0", x.jetOf(0, 5), 180);
-        FountainCues y = wideOpen();
+        FountainCues y = Shows.wideOpen();
         y.set(1, 50);
         y.play(10);
         due("dry", y.count(5) > 0 ? 1 : 0, 1);
@@ -634,7 +599,7 @@ public final class PromisesTest {
     // Promise 17
 
     private static void pumpOf() {
-        FountainCues x = wideOpen();
+        FountainCues x = Shows.wideOpen();
         x.play(1);
         x.pump(1, 799);
         due("limit", x.pumpOf(0, 0), 2000);
@@ -682,7 +647,7 @@ public final class PromisesTest {
     // Promise 19
 
     private static void count() {
-        FountainCues x = oneOpen();
+        FountainCues x = Shows.oneOpen();
         x.aim(4, 2);
         x.cue(1, 0, 5);
         x.cue(500, 0, 5);
@@ -698,7 +663,7 @@ public final class PromisesTest {
         due("the greatest height stays", x.count(8), 10);
         x.wind(20);
         due("lamps that burn in the wind", x.count(6), 0);
-        FountainCues y = wideOpen();
+        FountainCues y = Shows.wideOpen();
         y.pump(0, 100);
         y.pump(1, 70);
         y.set(2, 1);
@@ -707,7 +672,7 @@ public final class PromisesTest {
         due("the jets of the pump 0 burn", y.count(6), 4);
         due("their lamps burned", y.jetOf(3, 7), 1);
         due("lamps of the others did not", y.jetOf(4, 7), 0);
-        FountainCues z = wideOpen();
+        FountainCues z = Shows.wideOpen();
         z.set(1, 50);
         z.set(2, 1);
         z.play(100);
@@ -805,7 +770,7 @@ public final class PromisesTest {
     // Promise 22
 
     private static void ifPlayed() {
-        FountainCues x = wideOpen();
+        FountainCues x = Shows.wideOpen();
         x.set(1, 50);
         x.cue(2, 0, 0);
         due("lost", x.ifPlayed(3, 0), 800 + 800 + 700);
@@ -819,7 +784,7 @@ public final class PromisesTest {
         due("lost in dry ticks", x.ifPlayed(10, 0), 0);
         due("dry ticks that come, not those before", x.ifPlayed(10, 1), 10);
         due("no lamps", x.ifPlayed(10, 3), 0);
-        FountainCues y = oneOpen();
+        FountainCues y = Shows.oneOpen();
         y.aim(0, 1);
         y.set(2, 1);
         due("the greatest height in them, not the one before", y.ifPlayed(2, 2), 9);
@@ -919,7 +884,7 @@ public final class PromisesTest {
     private static void dryIn() {
         FountainCues x = new FountainCues();
         due("never", x.dryIn(), -1);
-        FountainCues y = wideOpen();
+        FountainCues y = Shows.wideOpen();
         y.set(1, 50);
         due("the sixth", y.dryIn(), 6);
         y.play(5);
@@ -942,7 +907,7 @@ public final class PromisesTest {
 
     /** 5 hundredths of 200 are 10 a tick: of 5180 - 200 * k water the last wet tick is told beforehand. */
     private static void dryInAtItsEnd() {
-        FountainCues x = oneOpen();
+        FountainCues x = Shows.oneOpen();
         x.undo();
         x.set(1, 5);
         x.fill(180);
@@ -984,12 +949,12 @@ public final class PromisesTest {
 
     private static void digest() {
         due("digest of a new one", new FountainCues().digest(), digestByLooks(new FountainCues(), ""));
-        FountainCues x = wideOpen();
+        FountainCues x = Shows.wideOpen();
         x.cue(3, 0, 4);
         x.cue(1, 5, 2);
         x.cue(20, 6, 2);
         x.wind(7);
-        type(x, "5@a1;~");
+        Shows.type(x, "5@a1;~");
         due("digest", x.digest(), digestByLooks(x, "5@a1;~"));
         x.play(3);
         x.pump(1, 333);
@@ -998,7 +963,7 @@ public final class PromisesTest {
         x.wind(20);
         due("digest with the share 0.0", x.digest(), digestByLooks(x, "5@a1;~"));
         for (int limit = 0; limit < 400; limit++) {
-            FountainCues y = oneOpen();
+            FountainCues y = Shows.oneOpen();
             y.jet(1, 1 + limit % 19, 0);
             y.aim(1, 10);
             y.play(1);
@@ -1041,10 +1006,10 @@ public final class PromisesTest {
     }
 
     private static void looksChangeNothing() {
-        FountainCues x = wideOpen();
+        FountainCues x = Shows.wideOpen();
         x.cue(2, 0, 4);
         x.play(1);
-        type(x, "5@a1");
+        Shows.type(x, "5@a1");
         long before = x.digest();
         Runnable[] looks = {() -> x.jetOf(0, 5), () -> x.pumpOf(0, 2), () -> x.cueOf(0, 0), () -> x.count(6),
             () -> x.setting(0), () -> x.refusal(3, 0, 1), () -> x.ifPlayed(50, 0), () -> x.mostAim(3, 0),
